@@ -21,20 +21,21 @@ public final class SongChoir {
     private static final long SEED_FACTOR = 6364136223846793005L;
     private static final long SEED_STEP = 1442695040888963407L;
 
-    private final Text text;
+    private final Line text;
     private final Choir present;
     // What would be is tried out on this one, so that no call has to make a choir of its own.
     private final Choir trial;
-    private final Verse fresh;
+    // The verse to be sung, apart from the song, which may forget the old verse that it comes from.
+    private final Line fresh;
     private final History history;
     // A slot is null until something has been saved in it.
     private final Song[] slots;
 
     public SongChoir() {
-        text = new Text();
+        text = new Line(MOST_TEXT);
         present = new Choir();
         trial = new Choir();
-        fresh = new Verse();
+        fresh = new Line(LONGEST_VERSE);
         history = new History();
         slots = new Song[SLOTS];
     }
@@ -220,7 +221,7 @@ public final class SongChoir {
             throw new IllegalStateException("the text can not become a verse");
         }
         history.remember(present.song);
-        fresh.takeText(text);
+        fresh.takeLine(text);
         return present.addVerse(fresh);
     }
 
@@ -264,7 +265,7 @@ public final class SongChoir {
         if (!text.fitsVerse()) {
             return NONE;
         }
-        fresh.takeText(text);
+        fresh.takeLine(text);
         trial.becomeChoir(present);
         trial.addVerse(fresh);
         return trial.order.longestRepeat();
@@ -274,7 +275,7 @@ public final class SongChoir {
         if (!text.fitsVerse()) {
             return NONE;
         }
-        fresh.takeText(text);
+        fresh.takeLine(text);
         int best = NONE;
         int fewest = MOST_NOTES;
         for (int k = 1; k <= MOST_SINGERS; k++) {
@@ -461,10 +462,14 @@ public final class SongChoir {
         return i >= 0 && i < row.length ? row[i] : 0;
     }
 
-    /** The characters that were appended. */
-    private static final class Text {
-        private final int[] codes = new int[MOST_TEXT];
+    /** Characters up to a limit: the text, or the notes of a verse that is about to be sung. */
+    private static final class Line {
+        private final int[] codes;
         int length = 0;
+
+        Line(int most) {
+            codes = new int[Math.max(0, most)];
+        }
 
         boolean isFull() {
             return length >= codes.length;
@@ -511,29 +516,8 @@ public final class SongChoir {
             }
             return shared;
         }
-    }
 
-    /** A verse that is about to be sung, apart from the song, which may forget its source. */
-    private static final class Verse {
-        private final int[] codes = new int[LONGEST_VERSE];
-        int length = 0;
-
-        void empty() {
-            length = 0;
-        }
-
-        void add(int code) {
-            if (length >= 0 && length < codes.length) {
-                codes[length] = code;
-                length++;
-            }
-        }
-
-        int codeAt(int i) {
-            return cellOf(codes, i);
-        }
-
-        void takeText(Text text) {
+        void takeLine(Line text) {
             empty();
             for (int i = 0; i < text.length; i++) {
                 add(text.codeAt(i));
@@ -667,7 +651,7 @@ public final class SongChoir {
             }
         }
 
-        void addVerse(Verse verse) {
+        void addVerse(Line verse) {
             if (verses >= lengths.length || notes + verse.length > codes.length) {
                 return;
             }
@@ -847,7 +831,7 @@ public final class SongChoir {
             return longest;
         }
 
-        int addVerse(Verse verse) {
+        int addVerse(Line verse) {
             int notes = song.notes;
             int age = song.age;
             song.makeRoomFor(verse.length);
