@@ -12,18 +12,10 @@ public final class ActionTest {
         Check.end();
     }
 
-    private static String song(SongChoir x) {
-        StringBuilder song = new StringBuilder();
-        for (int i = 0; i < x.about(0); i++) {
-            song.append((char) x.note(i, 0));
-        }
-        return song.toString();
-    }
-
     private static void singing() {
         SongChoir x = Check.text(new SongChoir(), "cab");
         Check.due("promise 15: nobody else is there", x.sing(), 0);
-        Check.same("promise 15: the song", song(x), "cab");
+        Check.same("promise 15: the song", Check.song(x), "cab");
         Check.due("promise 15: the text is kept", x.clearText(), 3);
         x.setSingers(2);
         // ab (place 1), b (2), cab (0): the first one alone is with singer 0; behind it, with
@@ -55,7 +47,7 @@ public final class ActionTest {
     private static void singingAgain() {
         SongChoir x = Check.withVerses("cab", "bage");
         Check.due("promise 16: one singer keeps all", x.again(0), 0);
-        Check.same("promise 16: the song", song(x), "cabbagecab");
+        Check.same("promise 16: the song", Check.song(x), "cabbagecab");
         Check.due("promise 16: a verse more", x.verse(2, 1), 3);
         Check.dueThrow("promise 16: again(3)", () -> x.again(3), Check.BOUNDS);
         Check.dueThrow("promise 16: again(-1)", () -> x.again(-1), Check.BOUNDS);
@@ -75,7 +67,7 @@ public final class ActionTest {
     private static void forgetting() {
         SongChoir x = Check.withVerses("cab", "bage");
         Check.due("promise 17: one singer keeps all", x.forget(), 0);
-        Check.same("promise 17: the song", song(x), "bage");
+        Check.same("promise 17: the song", Check.song(x), "bage");
         Check.due("promise 17: the verse left begins at 0", x.verse(0, 0), 0);
         Check.due("promise 17: age", x.about(3), 3);
         x.forget();

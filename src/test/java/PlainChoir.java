@@ -159,6 +159,15 @@ final class PlainChoir {
     private final ArrayDeque<State> remembered = new ArrayDeque<>();
     private final State[] slots = new State[2];
 
+    static PlainChoir withVerses(String... verses) {
+        PlainChoir plain = new PlainChoir();
+        for (String verse : verses) {
+            plain.text = verse;
+            plain.sing();
+        }
+        return plain;
+    }
+
     private static void refuseIf(boolean wrong, RuntimeException e) {
         if (wrong) {
             throw e;

@@ -18,11 +18,31 @@ public final class RulesTest {
     private static final Path FILE = Path.of("src/main/java/SongChoir.java");
 
     private static final String[] FACE = {
-        "about(int)", "again(int)", "append(int)", "bestAgain()", "bestSingers()", "clearText()",
-        "common(int,int)", "count()", "errorPosition()", "forget()", "known()", "most(int,boolean)",
-        "note(int,int)", "placeOf(int)", "restore(int)", "runScript(int,long)", "save(int)",
-        "setSingers(int)", "simulate(long,int)", "sing()", "singer(int,int)", "suffix(int)", "undo()",
-        "verse(int,int)", "wouldRepeat()"};
+        "append(int) throws IllegalArgumentException, IllegalStateException",
+        "clearText()",
+        "errorPosition()",
+        "about(int) throws IllegalArgumentException",
+        "note(int,int) throws IndexOutOfBoundsException, IllegalArgumentException",
+        "suffix(int) throws IllegalArgumentException",
+        "verse(int,int) throws IndexOutOfBoundsException, IllegalArgumentException",
+        "singer(int,int) throws IndexOutOfBoundsException, IllegalArgumentException",
+        "count() throws IllegalStateException",
+        "placeOf(int) throws IllegalArgumentException, IllegalStateException",
+        "known() throws IllegalStateException",
+        "common(int,int) throws IndexOutOfBoundsException",
+        "most(int,boolean) throws IllegalArgumentException",
+        "sing() throws IllegalStateException",
+        "again(int) throws IndexOutOfBoundsException",
+        "forget() throws IllegalStateException",
+        "setSingers(int) throws IllegalArgumentException",
+        "undo() throws IllegalStateException",
+        "wouldRepeat()",
+        "bestSingers()",
+        "bestAgain()",
+        "runScript(int,long) throws IllegalArgumentException",
+        "simulate(long,int) throws IllegalArgumentException",
+        "save(int) throws IndexOutOfBoundsException",
+        "restore(int) throws IndexOutOfBoundsException, IllegalStateException"};
 
     private static final String[] FORBIDDEN = {
         "->", "::", "\\bimport\\b", "\\bpackage\\b", "Exact\\(", "\\bsynchronized\\b", "\\bassert\\b",
@@ -46,8 +66,7 @@ public final class RulesTest {
             }
             Check.holds("public and no other: " + m, m.getModifiers() == Modifier.PUBLIC);
             Check.holds("answers int: " + m, m.getReturnType() == int.class);
-            String whole = m.toString();
-            face.add(m.getName() + whole.substring(whole.indexOf('('), whole.indexOf(')') + 1));
+            face.add(told(m));
             names.add(m.getName());
         }
         Check.same("the face", face.toString(), new TreeSet<>(Set.of(FACE)).toString());
@@ -66,6 +85,11 @@ public final class RulesTest {
         Check.due("without a parameter", makers[0].getParameterCount(), 0);
         Check.holds("the class is public and final",
             SongChoir.class.getModifiers() == (Modifier.PUBLIC | Modifier.FINAL));
+    }
+
+    private static String told(Method m) {
+        String whole = m.toString().replace("java.lang.", "").replace(",Ill", ", Ill");
+        return whole.substring(whole.indexOf('.') + 1);
     }
 
     private static void noneNamedLikeTheFace(Class<?> type, Set<String> names) {

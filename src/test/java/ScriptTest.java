@@ -152,7 +152,7 @@ public final class ScriptTest {
         long[] seeds = {0, 1, -1, 3, 42, 1234567890123L, Long.MAX_VALUE, Long.MIN_VALUE};
         SongChoir busy = Check.withVerses("cab", "bage", "aaaaaaaaaaaa", "abababababab", "gfedc");
         PlainChoir plain = new PlainChoir();
-        PlainChoir busyPlain = plainWith("cab", "bage", "aaaaaaaaaaaa", "abababababab", "gfedc");
+        PlainChoir busyPlain = PlainChoir.withVerses("cab", "bage", "aaaaaaaaaaaa", "abababababab", "gfedc");
         busy.setSingers(5);
         busyPlain.setSingers(5);
         for (long seed : seeds) {
@@ -163,18 +163,6 @@ public final class ScriptTest {
         }
         x.setSingers(8);
         Check.due("promise 24: as told under ../shared/tests", x.simulate(1, 20), 7130);
-    }
-
-    private static PlainChoir plainWith(String... verses) {
-        PlainChoir plain = new PlainChoir();
-        for (String verse : verses) {
-            plain.clearText();
-            for (char c : verse.toCharArray()) {
-                plain.append(c);
-            }
-            plain.sing();
-        }
-        return plain;
     }
 
     private static void nothingChanges() {
